@@ -609,8 +609,6 @@ public final class NoiseShaper {
     private int hitClocksAhead(int many, int limit) {
         paperLoop.copyFrom(loop);
         paperLoop.plan.limit = limit;
-        paperLoop.hitClocks = 0;
-        paperLoop.greatestHeld = 0;
         for (int i = 0; i < many; i++) {
             paperLoop.advance(source.numberAt(clock + i));
         }
@@ -808,7 +806,6 @@ public final class NoiseShaper {
             x = plan.seed;
             hits = 0;
             hitClocks = 0;
-            hit = false;
             greatestHeld = 0;
             sourceSum = 0;
             valueSum = 0;

@@ -30,6 +30,7 @@ public final class ModelTest {
         for (int run = 0; run < RUNS && wrong == 0; run++) {
             oneRun(run);
         }
+        debtsAtTheirLimits();
         System.out.println(wrong == 0 ? "all answers are as the model's" : wrong + " answers are not as the model's");
         if (wrong != 0) {
             System.exit(1);
@@ -62,6 +63,33 @@ public final class ModelTest {
                         + x.status() + ", due is " + want + " with status " + model.status);
                 System.out.println("behind " + calls);
             }
+        }
+    }
+
+    /** Debts run up too slowly for drawn calls to bring them to their limits. */
+    private static void debtsAtTheirLimits() {
+        NoiseShaper x = new NoiseShaper();
+        Model model = new Model();
+        same(x, model, "loop", 2, 1, 154, 16, 60000, 0);
+        same(x, model, "source", 2, -1087, 2335, 747);
+        same(x, model, "way", 2);
+        for (int i = 0; i < 100; i++) {
+            same(x, model, "clocks", 400);
+            for (int element = 0; element < 15; element++) {
+                same(x, model, "element", element, 2);
+                same(x, model, "element", element, 3);
+            }
+        }
+        same(x, model, "sum", 4);
+        same(x, model, "spread");
+    }
+
+    private static void same(NoiseShaper x, Model model, String name, int... a) {
+        long got = callClass(x, name, a);
+        long want = model.call(name, a);
+        if (got != want) {
+            wrong++;
+            System.out.println(name + Arrays.toString(a) + " answered " + got + ", due is " + want);
         }
     }
 

@@ -614,6 +614,20 @@ public final class PromiseTest {
         no("what", x.element(0, -1), 1);
         no("no element", x.element(3, 0), 2);
         no("no element", x.element(-1, 0), 2);
+        // About 4 of 15, then 15 of 15, for long: sums of debts that run up to their limits.
+        x.loop(0, 1, 154, 16, 60000, false);
+        x.source(2, -1087, 2335, 747);
+        for (int i = 0; i < 60; i++) {
+            x.clocks(400);
+        }
+        long greatest = 0;
+        long least = 0;
+        for (int i = 0; i < 15; i++) {
+            greatest = Math.max(greatest, x.element(i, 3));
+            least = Math.min(least, x.element(i, 3));
+        }
+        is("the greatest sum of debts", greatest, 1000000);
+        is("the least sum of debts", least, -1000000);
         x.anew(2);
         is("debts anew", x.element(0, 2) + x.element(2, 3) + x.element(0, 1) + x.element(2, 4), 0);
 
@@ -837,6 +851,10 @@ public final class PromiseTest {
         is("the eldest went", x.asked(0), 0);
         is("the newest", x.asked(11), 99);
         x.tone(-1, 1);
+        for (int i = 0; i < 10; i++) {
+            is("those between", x.asked(i), i + 1);
+        }
+        is("the one ahead of it", x.asked(10), 99);
         is("asked anew", x.asked(11), -1);
         is("twelve", x.state(13), 12);
         no("no more", x.asked(12), 5);
@@ -874,6 +892,8 @@ public final class PromiseTest {
         x.loop(0, 1, 5000, 2, 60000, false);
         // Periods 10,000 / gcd(5,000 + u, 10,000): of 8, 10 and 20 up to 1,000.
         is("some do not come round", x.idle(1, 20, 1000, 0), 3);
+        is("the longest period", x.idle(9, 2, 1000, 1), 10);
+        is("the shorter one", x.idle(10, 11, 1000, 1), 20);
     }
 
     // ---- 35 to 38
