@@ -26,8 +26,8 @@ public final class BoundsTest extends EdgeCheck {
 
     public static void main(String[] args) {
         for (Setup setup : Setup.values()) {
+            NOW.put(setup, picture(make(setup)));
             NoiseShaper of = make(setup);
-            NOW.put(setup, picture(of));
             of.clocks(CLOCKS_BEHIND);
             LATER.put(setup, picture(of));
         }
@@ -101,6 +101,8 @@ public final class BoundsTest extends EdgeCheck {
             fault(call + " answered " + got + " with status " + of.status() + ", due is -1 with status " + status);
         }
         same("behind " + call, picture(of), NOW.get(setup));
+        of = make(setup);
+        call(of, name, arguments);
         of.clocks(CLOCKS_BEHIND);
         same(CLOCKS_BEHIND + " clocks behind " + call, picture(of), LATER.get(setup));
     }

@@ -43,7 +43,8 @@ public final class ModelTest {
         Model model = new Model();
         List<String> calls = new ArrayList<>();
         int toneCalls = 0;
-        for (int i = 0; i < CALLS && wrong == 0; i++) {
+        // What is answered behind so many calls is free, and status() is one, too.
+        for (int i = 0; i < CALLS - 1 && wrong == 0; i++) {
             int name = random.nextInt(3) == 0 ? random.nextInt(11) : random.nextInt(NAMES.length);
             if (random.nextInt(8) == 0) {
                 name = 10;
@@ -57,7 +58,9 @@ public final class ModelTest {
             calls.add(call);
             long got = callClass(x, NAMES[name], drawn);
             long want = model.call(NAMES[name], drawn);
-            if (got != want || x.status() != model.status) {
+            boolean asksStatus = got == NoiseShaper.NONE || random.nextInt(4) == 0;
+            i += asksStatus ? 1 : 0;
+            if (got != want || asksStatus && x.status() != model.status) {
                 wrong++;
                 System.out.println("run " + run + ", call " + i + ": " + call + " answered " + got + " with status "
                         + x.status() + ", due is " + want + " with status " + model.status);
@@ -73,9 +76,9 @@ public final class ModelTest {
         same(x, model, "loop", 2, 1, 154, 16, 60000, 0);
         same(x, model, "source", 2, -1087, 2335, 747);
         same(x, model, "way", 2);
-        for (int i = 0; i < 100; i++) {
+        for (int i = 0; i < 120; i++) {
             same(x, model, "clocks", 400);
-            for (int element = 0; element < 15; element++) {
+            for (int element = 0; element < 15 && i % 10 == 9; element++) {
                 same(x, model, "element", element, 2);
                 same(x, model, "element", element, 3);
             }

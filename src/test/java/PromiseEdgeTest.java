@@ -32,19 +32,27 @@ public final class PromiseEdgeTest extends EdgeCheck {
     }
 
     /** An object with something of everything; its clock is 200. */
-    private static NoiseShaper busy() {
+    private static NoiseShaper busy(int kind) {
         x = new NoiseShaper();
         for (int i = 0; i < 16; i++) {
             x.sample(i, i * 29 - 210);
             x.deviation(i, 7 * i - 50);
         }
         x.source(3, 0, 0, 1);
-        x.loop(0, 2, 60, 6, 90, true);
+        x.loop(kind, 2, 60, 6, 55, true);
         x.dither(20, 12345);
         x.way(1);
         x.comb(3, 2, 12, 1);
         x.folds(3, 2, 1, 0);
         x.clocks(200);
+        return x;
+    }
+
+    /** The same, with a source that does not go by samples. */
+    private static NoiseShaper steadySource() {
+        busy(0);
+        x.source(0, 40, 0, 1);
+        x.clocks(60);
         return x;
     }
 
@@ -83,10 +91,8 @@ public final class PromiseEdgeTest extends EdgeCheck {
         toldIs(1);
 
         sentence("4: what it was (nothing BEGINS ANEW); STATUS tells NONE from -1");
-        busy();
-        x.source(0, 40, 0, 1);
-        x.clocks(60);
-        List<String> before = picture(x);
+        List<String> before = picture(steadySource());
+        steadySource();
         is("a sample", x.sample(0, -1), -210);
         is("that was -1", x.sample(0, -1), -1);
         is("the last one", x.sample(15, MOST), 15 * 29 - 210);
@@ -186,15 +192,36 @@ public final class PromiseEdgeTest extends EdgeCheck {
         is("none", x.taps(999, -999, 0, 0, 0), 0);
 
         sentence("11: by how much they bring it down (1, 2, 4, 8)");
-        x.clocks(5);
         for (int many = 0; many <= 3; many++) {
             is(many + " folds", x.folds(many, 3, 3, 3), 1 << many);
+            x.anew(3);
             x.clocks(16);
-            is("the last one told", x.told(3 + many) - (many == 0 ? 5 : 0), many == 0 ? 16 : 16 >> many);
+            is("the last one told", x.told(3 + many), 16 >> many);
         }
         is("none again", x.folds(0, 0, 0, 0), 1);
         for (int stage = 4; stage < 7; stage++) {
             toldIs(stage);
+        }
+
+        sentence("11: the TAPS of each (0 to 3)");
+        for (int kinds = 0; kinds < 64; kinds++) {
+            x = new NoiseShaper();
+            alwaysTelling(1, 2);
+            x.comb(1, 16, 32, 1);
+            x.taps(0, 0, 0, 8, 0);
+            int[] taps = {kinds % 4, kinds / 4 % 4, kinds / 16};
+            x.folds(3, taps[0], taps[1], taps[2]);
+            for (int i = 0; i < 5; i++) {
+                x.clocks(400);
+            }
+            long due = 16000;
+            for (int fold = 0; fold < 3; fold++) {
+                // All together are 2 to the power of shift, but of those that are told.
+                due *= taps[fold] == 3 ? 8 : 1;
+                is("taps " + taps[fold] + " of fold " + fold, x.latest(4 + fold, 0), due);
+                int plain = new int[] {3, 5, 7, 1}[taps[fold]];
+                is("work of fold " + fold, x.work(fold, 0), plain * x.told(4 + fold));
+            }
         }
     }
 
@@ -320,14 +347,15 @@ public final class PromiseEdgeTest extends EdgeCheck {
         sentence("17: Since the LOOP BEGAN, together: as far as 512 calls can");
         x.source(0, 30000, 0, 1);
         x.loop(1, 4, 5000, 17, 1, false);
-        for (int i = 0; i < 16; i++) {
-            x.deviation(i, 99);
-        }
         for (int i = 0; i < 480; i++) {
             x.clocks(400);
         }
         is("source's numbers", x.sum(0), 480L * 400 * 30000);
         is("gap", x.gap(0, 0), x.sum(1) - x.sum(0));
+        x = new NoiseShaper();
+        for (int i = 0; i < 16; i++) {
+            x.deviation(i, 99);
+        }
         alwaysTelling(16, 17);
         for (int i = 0; i < 480; i++) {
             x.clocks(400);
@@ -488,6 +516,12 @@ public final class PromiseEdgeTest extends EdgeCheck {
         is("round", x.spread(), 0);
         x.clocks(1);
         is("one more", x.spread(), 1);
+        alwaysTelling(1, 4);
+        x.way(2);
+        x.clocks(4);
+        // 0, 1, 2 and 2 again: the last one was on most.
+        is("the last most", x.spread(), 1);
+        is("the last most", x.element(2, 1), 2);
     }
 
     // ---- 23 to 25
@@ -597,6 +631,7 @@ public final class PromiseEdgeTest extends EdgeCheck {
         sentence("27: number i of RATIO ones, folded by themselves ORDER times (5: behind its end)");
         for (int order = 1; order <= 5; order++) {
             for (int ratio = 1; ratio <= 16; ratio++) {
+                x = new NoiseShaper();
                 x.comb(order, ratio, 8, 0);
                 int last = order * (ratio - 1);
                 is("the first", x.response(0), 1);
@@ -703,6 +738,7 @@ public final class PromiseEdgeTest extends EdgeCheck {
         x.clocks(100);
         is("48: the least lag", x.tonal(0), 2);
         for (int c = 1; c <= 60; c++) {
+            x = new NoiseShaper();
             x.source(1, 0, 1, c);
             x.clocks(48);
             int best = 2;
@@ -771,10 +807,13 @@ public final class PromiseEdgeTest extends EdgeCheck {
         boolean[] seen = new boolean[17];
         int outs = 0;
         int changes = 0;
+        int last = x.out(-490, 107 + 183);
         for (int t = 108; t < 108 + 183; t++) {
-            seen[x.out(-490, t)] = true;
-            outs += x.out(-490, t);
-            changes += x.out(-490, t) == x.out(-490, t + 1) ? 0 : 1;
+            int y = x.out(-490, t);
+            seen[y] = true;
+            outs += y;
+            changes += y == last ? 0 : 1;
+            last = y;
         }
         for (int y = 0; y < 17; y++) {
             is("out " + y, seen[y] ? 1 : 0, 1);
@@ -795,7 +834,7 @@ public final class PromiseEdgeTest extends EdgeCheck {
     private static void outAndAsked() {
         sentence("32: OUT at CLOCK t (0 to 999) of the TONE of u");
         // 1 0 1 1, from the first clock on.
-        for (int t = 0; t < 1000; t++) {
+        for (int t = 0; t < 1000; t += t == 39 ? 921 : 1) {
             is("clock " + t, x.out(50, t), t % 4 == 1 ? 0 : 1);
         }
         for (int t : new int[] {0, 1, 999}) {
@@ -856,7 +895,7 @@ public final class PromiseEdgeTest extends EdgeCheck {
             x = new NoiseShaper();
             alwaysTelling(11, 17);
             x.way(way);
-            for (int i = 0; i < 20; i++) {
+            for (int i = 0; i < 8; i++) {
                 is("none", x.next(0), 0);
                 is("all", x.next(16), 0xFFFF);
                 no("one more", x.next(17), 1);
@@ -872,14 +911,14 @@ public final class PromiseEdgeTest extends EdgeCheck {
 
     private static void ahead() {
         sentence("36: So many CLOCKS on (1 to 200) by another WAY of ELEMENTS that BEGIN ANEW, all else as it is");
-        for (int way = 0; way < 3; way++) {
+        for (int way = 0; way < 9; way++) {
             for (int many : new int[] {1, 2, 17, 199, 200}) {
-                busy();
-                long spread = x.ahead(many, way, 0);
-                long drift = x.ahead(many, way, 1);
-                long greatest = x.ahead(many, way, 2);
+                busy(way / 3);
+                long spread = x.ahead(many, way % 3, 0);
+                long drift = x.ahead(many, way % 3, 1);
+                long greatest = x.ahead(many, way % 3, 2);
                 is("the way as it was", x.state(10), 1);
-                x.way(way);
+                x.way(way % 3);
                 long behindAny = 0;
                 for (int i = 0; i < many; i++) {
                     x.clocks(1);
@@ -902,14 +941,17 @@ public final class PromiseEdgeTest extends EdgeCheck {
 
     private static void strain() {
         sentence("37: So many CLOCKS on (1 to 200) by another LIMIT, all else as it is: how many of them have a HIT");
-        for (int many : new int[] {1, 2, 60, 199, 200}) {
-            busy();
-            int behind = x.strain(many, 90);
-            int before = x.state(8);
-            for (int i = 0; i < many; i++) {
-                x.clocks(1);
+        for (int kind = 0; kind < 3; kind++) {
+            for (int many : new int[] {1, 2, 60, 199, 200}) {
+                busy(kind);
+                int behind = x.strain(many, 55);
+                int before = x.state(8);
+                for (int i = 0; i < many; i++) {
+                    x.clocks(1);
+                }
+                is("by the limit that there is", behind, x.state(8) - before);
+                is("some", behind > 0 || many < 60 ? 1 : 0, 1);
             }
-            is("by the limit that there is", behind, x.state(8) - before);
         }
 
         sentence("37: by another LIMIT (1 to 60,000)");
