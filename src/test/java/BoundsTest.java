@@ -40,6 +40,8 @@ public final class BoundsTest extends EdgeCheck {
         reckoned();
         tones();
         onPaper();
+        notComingRound();
+        askingChangesNothing();
         statusItself();
         end();
     }
@@ -443,6 +445,78 @@ public final class BoundsTest extends EdgeCheck {
         refused(Setup.FRESH, 5, "calmed", 60, 1);
         refused(Setup.FRESH, 1, "calmed", 61, 1);
         refused(Setup.FRESH, 1, "calmed", 1, 0);
+    }
+
+    // ---- what else is changed
+
+    private static void notComingRound() {
+        sentence("31: (5: it does not COME ROUND; u is ASKED then, too): nothing else");
+        List<String> before = withoutAsked(picture(longLoop()));
+        NoiseShaper of = longLoop();
+        no("a period of 10,000", of.tone(1, 1), 5);
+        same("behind it", withoutAsked(picture(of)), before);
+        is("asked", of.asked(0), 1);
+        is("asked", of.state(13), 1);
+        no("asked", of.asked(1), 5);
+    }
+
+    private static NoiseShaper longLoop() {
+        x = new NoiseShaper();
+        x.loop(0, 1, 5000, 2, 60000, false);
+        x.source(0, 777, 0, 1);
+        x.clocks(77);
+        return x;
+    }
+
+    private static List<String> withoutAsked(List<String> lines) {
+        lines.removeIf(line -> line.startsWith("asked(") || line.startsWith("state(13)"));
+        return lines;
+    }
+
+    private static void askingChangesNothing() {
+        sentence("what there is, what can be reckoned, on paper: calls that only tell");
+        asksOnly("told", 6);
+        asksOnly("latest", 6, 24);
+        asksOnly("state", 5);
+        asksOnly("sum", 4);
+        asksOnly("gap", 2, 48);
+        asksOnly("range", 0, 2);
+        asksOnly("steady", 6, 30000);
+        asksOnly("element", 11, 4);
+        asksOnly("spread");
+        asksOnly("combed", 2);
+        asksOnly("wrong", 1);
+        asksOnly("work", 2, 1);
+        asksOnly("need", 100000);
+        asksOnly("response", 3);
+        asksOnly("half", 3, 3);
+        asksOnly("beat", 2, 47);
+        asksOnly("tonal", 2);
+        // One that is asked already.
+        asksOnly("tone", 11, 5);
+        asksOnly("out", 30000, 999);
+        asksOnly("asked", 11);
+        asksOnly("idle", -30000, 60, 1000, 1);
+        for (int y = 0; y <= 12; y++) {
+            asksOnly("next", y);
+        }
+        for (int way = 0; way < 3; way++) {
+            asksOnly("ahead", 200, way, 2);
+        }
+        asksOnly("strain", 200, 1);
+        asksOnly("strain", 200, 60000);
+        asksOnly("calmed", 60, 400);
+    }
+
+    private static void asksOnly(String name, int... arguments) {
+        taken(Setup.BUSY, name, arguments);
+        NoiseShaper of = make(Setup.BUSY);
+        call(of, name, arguments);
+        same("behind " + text(name, arguments), picture(of), NOW.get(Setup.BUSY));
+        of = make(Setup.BUSY);
+        call(of, name, arguments);
+        of.clocks(CLOCKS_BEHIND);
+        same("later than " + text(name, arguments), picture(of), LATER.get(Setup.BUSY));
     }
 
     // ---- status()

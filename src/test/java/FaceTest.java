@@ -25,7 +25,7 @@ public final class FaceTest {
     private static final String[] RULED_OUT = {
         "\\bthrow\\b", "\\btry\\b", "\\bcatch\\b", "\\bsynchronized\\b", "\\bassert\\b", "->", "::", "Exact\\b",
         "\\bSystem\\.(?!arraycopy\\b)", "\\bInteger\\.(MAX|MIN)", "\\bLong\\.[A-Z]", "\\bpackage\\b", "\\bprotected\\b",
-        "\\bstatic\\s*\\{", "\\bRandom\\b", "\\bThread\\b", "\\bimport\\s+(?!java\\.util\\.Arrays;)"};
+        "\\bstatic\\s*\\{", "\\bRandom\\b", "\\bThread\\b", "\\bnew\\s+\\w+\\([^)]*\\)\\s*\\{", "\\bimport\\s+(?!java\\.util\\.Arrays;)"};
 
     private static int wrong;
 
@@ -33,6 +33,8 @@ public final class FaceTest {
         methods();
         fieldsAndConstructor();
         words();
+        sizes();
+        lengths();
         room();
         System.out.println(wrong == 0 ? "the face is as due" : wrong + " faults");
         if (wrong != 0) {
@@ -107,6 +109,68 @@ public final class FaceTest {
         }
         if (text.chars().anyMatch(sign -> sign > 126)) {
             fault("a sign beyond 126");
+        }
+    }
+
+    /** Rules 2, 3, 5 and 11: how many classes, fields and parameters, and of which kinds static fields are. */
+    private static void sizes() {
+        Class<?>[] inside = NoiseShaper.class.getDeclaredClasses();
+        if (inside.length > 11) {
+            fault("more than twelve classes: " + (inside.length + 1));
+        }
+        sizesOf(NoiseShaper.class);
+        for (Class<?> one : inside) {
+            sizesOf(one);
+        }
+    }
+
+    private static void sizesOf(Class<?> one) {
+        Set<Class<?>> kinds = Set.of(int.class, long.class, boolean.class, char.class, String.class, int[].class,
+                long[].class, char[].class, byte[].class);
+        int fields = 0;
+        for (Field field : one.getDeclaredFields()) {
+            boolean isStatic = Modifier.isStatic(field.getModifiers());
+            fields += isStatic ? 0 : 1;
+            if (isStatic && (!Modifier.isFinal(field.getModifiers()) || !kinds.contains(field.getType()))) {
+                fault("a static field that may not be so: " + field);
+            }
+        }
+        if (fields > 20) {
+            fault(one + " has " + fields + " fields");
+        }
+        for (Method method : one.getDeclaredMethods()) {
+            if (method.getParameterCount() > 7) {
+                fault("more than seven parameters: " + method);
+            }
+        }
+    }
+
+    /** Rule 11: a method begins with a line that opens a brace at the depth of its class's members. */
+    private static void lengths() throws Exception {
+        String name = "";
+        int first = 0;
+        int depth = 0;
+        int line = 0;
+        int classDepth = 0;
+        for (String text : Files.readAllLines(Path.of("src/main/java/NoiseShaper.java"))) {
+            line++;
+            String code = text.replaceAll("//.*", "");
+            boolean isClass = Pattern.compile("\\bclass\\b.*\\{").matcher(code).find();
+            int opened = code.length() - code.replace("{", "").length();
+            int closed = code.length() - code.replace("}", "").length();
+            if (isClass) {
+                classDepth = depth + 1;
+            } else if (depth == classDepth && opened > closed) {
+                name = code.trim();
+                first = line;
+            }
+            depth += opened - closed;
+            if (depth == classDepth && closed > opened && line - first + 1 > 60) {
+                fault("more than sixty lines: " + name);
+            }
+            if (depth < classDepth) {
+                classDepth = depth;
+            }
         }
     }
 
