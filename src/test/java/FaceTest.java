@@ -70,6 +70,13 @@ public final class FaceTest {
         for (String method : due) {
             fault("the face has not: " + method);
         }
+        for (Class<?> inside : NoiseShaper.class.getDeclaredClasses()) {
+            for (Method method : inside.getDeclaredMethods()) {
+                if (Modifier.isPrivate(method.getModifiers()) && dueNames.contains(method.getName())) {
+                    fault("a private method with the name of a public one: " + method);
+                }
+            }
+        }
     }
 
     private static void fieldsAndConstructor() {
