@@ -31,6 +31,9 @@ public final class ModelTest {
             oneRun(run);
         }
         debtsAtTheirLimits();
+        longRun(0, 4, 5, 1, 32, 1);
+        longRun(1, 2, 5, 16, 31, 0);
+        longRun(2, 3, 4, 3, 8, 1);
         System.out.println(wrong == 0 ? "all answers are as the model's" : wrong + " answers are not as the model's");
         if (wrong != 0) {
             System.exit(1);
@@ -84,6 +87,38 @@ public final class ModelTest {
             }
         }
         same(x, model, "sum", 4);
+        same(x, model, "spread");
+    }
+
+    /** As many CLOCKS as an object can have: the sums of the comb run over 64 bits, and it is to be TRUE all the same. */
+    private static void longRun(int kind, int order, int combOrder, int ratio, int width, int in) {
+        NoiseShaper x = new NoiseShaper();
+        Model model = new Model();
+        same(x, model, "source", 1, -700, 3, 500);
+        same(x, model, "loop", kind, order, 900, 3, 5000, 1);
+        same(x, model, "dither", 300, 77);
+        // Not rotated: the model reckons the POINTER from all that was ever ON, each time.
+        same(x, model, "way", kind == 1 ? 0 : 2);
+        same(x, model, "comb", combOrder, ratio, width, in);
+        same(x, model, "taps", -50, 0, 300, 512, 10);
+        same(x, model, "folds", 3, 3, 1, 2);
+        for (int i = 0; i < 450; i++) {
+            same(x, model, "clocks", 400);
+        }
+        for (int i = 0; i < 14; i++) {
+            same(x, model, "state", i);
+        }
+        for (int i = 0; i < 6; i++) {
+            same(x, model, "sum", i);
+            same(x, model, "latest", i + 1, 0);
+        }
+        for (int i = 0; i < 5; i++) {
+            same(x, model, "combed", i);
+        }
+        same(x, model, "wrong", 0);
+        same(x, model, "wrong", 1);
+        same(x, model, "work", 2, 1);
+        same(x, model, "gap", 1, 1);
         same(x, model, "spread");
     }
 
